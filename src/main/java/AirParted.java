@@ -229,7 +229,7 @@ public final class AirParted {
         if (!within(n, 1, 8) || !within(t, 0, n) || !within(p, 0, 100)) {
             return BAD;
         }
-        return Chance.ofAtMost(t, n, p);
+        return chanceOfAtMost(t, n, p);
     }
 
     public int flow(int n, int t, int p, int m, int r) {
@@ -239,8 +239,8 @@ public final class AirParted {
         if (!within(m, 1, 8) || !within(r, 0, m)) {
             return BAD;
         }
-        int unread = 100 - Chance.ofAtMost(t, n, p) / 10000;
-        return Chance.ofAtMost(m - r, m, unread);
+        int unread = 100 - chanceOfAtMost(t, n, p) / 10000;
+        return chanceOfAtMost(m - r, m, unread);
     }
 
     public int hops(int p, int a, int b, int s) {
@@ -632,6 +632,26 @@ public final class AirParted {
     private static boolean areRows(int p, int a, int b) {
         boolean prime = p == 2 || p == 3 || p == 5 || p == 7 || p == 11;
         return prime && within(a, 1, p - 1) && within(b, 1, p - 1);
+    }
+
+    /** That at most t of n (1 to 8) fail, each by p hundredths: in millionths, rounded down. */
+    private static int chanceOfAtMost(int t, int n, int p) {
+        long sum = 0;
+        long ways = 1;
+        for (int k = 0; k <= t; k++) {
+            sum += ways * power(p, k) * power(100 - p, n - k);
+            ways = ways * (n - k) / (k + 1);
+        }
+        // The sum is of 100 to the n-th, millionths are 100 to the third: so nothing grows beyond a long.
+        return (int) (n <= 3 ? sum * power(100, 3 - n) : sum / power(100, n - 3));
+    }
+
+    private static long power(int base, int times) {
+        long product = 1;
+        for (int i = 0; i < times; i++) {
+            product *= base;
+        }
+        return product;
     }
 
     /** Asked only behind areRows(), so p is a prime. */
@@ -1162,29 +1182,6 @@ public final class AirParted {
                 }
             }
             return bits;
-        }
-    }
-
-    /** Odds in whole numbers: a chance of n parts is counted in 100 to the n-th. */
-    private static final class Chance {
-        /** That at most t of n (1 to 8) fail, each by p hundredths: in millionths, rounded down. */
-        private static int ofAtMost(int t, int n, int p) {
-            long sum = 0;
-            long ways = 1;
-            for (int k = 0; k <= t; k++) {
-                sum += ways * power(p, k) * power(100 - p, n - k);
-                ways = ways * (n - k) / (k + 1);
-            }
-            // Millionths are 100 to the third: so the sum is never multiplied beyond a long.
-            return (int) (n <= 3 ? sum * power(100, 3 - n) : sum / power(100, n - 3));
-        }
-
-        private static long power(int base, int times) {
-            long product = 1;
-            for (int i = 0; i < times; i++) {
-                product *= base;
-            }
-            return product;
         }
     }
 
