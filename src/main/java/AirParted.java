@@ -4,6 +4,8 @@ import java.util.Arrays;
 public final class AirParted {
     public static final int NONE = -1, BAD = -2, NOT = -3, FULL = -4;
 
+    private static final int LEAST_INT = 1 << 31;
+    private static final long LEAST_LONG = 1L << 63;
     private static final int NULL = 1, INDEX = 2, CAST = 3, STORE = 4, SIZE = 5;
     private static final int SHEETS = 6;
     private static final int KINDS = 6;
@@ -116,7 +118,7 @@ public final class AirParted {
     }
 
     public int about(int sender, int what) {
-        return air.has(sender) ? air.tell(sender, what) : Integer.MIN_VALUE;
+        return air.has(sender) ? air.tell(sender, what) : LEAST_INT;
     }
 
     public int change(int sender, int what, int v) {
@@ -150,7 +152,7 @@ public final class AirParted {
     public long drowns(int sender) {
         int refusal = refusalUnlessOn(sender);
         if (refusal != 0) {
-            return Long.MIN_VALUE - refusal;
+            return LEAST_LONG - refusal;
         }
         air.gatherRivals(sender);
         return air.againstWithout(0);
@@ -501,12 +503,12 @@ public final class AirParted {
 
     public long get(int s, int form, int i) {
         if (!isSheet(s) || !isForm(form)) {
-            return Long.MIN_VALUE;
+            return LEAST_LONG;
         }
         int wrong = wrongItem(sheets[s], form, i);
         if (wrong != 0) {
             finding = wrong;
-            return Long.MIN_VALUE;
+            return LEAST_LONG;
         }
         return sheets[s].item[i];
     }
@@ -955,7 +957,7 @@ public final class AirParted {
                 case 8: return s.on ? 1 : 0;
                 case 9: return s.home;
                 case 10: return s.slot;
-                default: return Integer.MIN_VALUE;
+                default: return LEAST_INT;
             }
         }
 
@@ -1115,24 +1117,25 @@ public final class AirParted {
 
         private boolean divide() {
             Arrays.fill(inSlot, 0);
-            return fewest[whole()] != NEVER && place(0);
+            return fewest[whole()] != NEVER && place(this, 0);
         }
 
         /** Puts the i-th and all behind it; slots are tried from the least on, so the first way found is the one told. */
-        private boolean place(int i) {
-            if (i >= total) {
+        private static boolean place(Parting p, int i) {
+            if (i >= p.total) {
                 return true;
             }
-            for (int s = 0; s < fewest[whole()] && s < MOST; s++) {
-                if (together[inSlot[s] | 1 << i]) {
-                    inSlot[s] |= 1 << i;
-                    slotOf[i] = s;
-                    if (place(i + 1)) {
+            int many = p.fewest[p.whole()];
+            for (int s = 0; s < many && s < MOST; s++) {
+                if (p.together[p.inSlot[s] | 1 << i]) {
+                    p.inSlot[s] |= 1 << i;
+                    p.slotOf[i] = s;
+                    if (place(p, i + 1)) {
                         return true;
                     }
-                    inSlot[s] &= ~(1 << i);
+                    p.inSlot[s] &= ~(1 << i);
                 }
-                if (inSlot[s] == 0) {
+                if (p.inSlot[s] == 0) {
                     // All empty slots are alike: what failed in one fails in the next.
                     return false;
                 }

@@ -187,6 +187,19 @@ public final class ListeningTest {
         Check.due("27: one hears the other", x.hidden(0), 0);
         x.set(3, 101);
         Check.due("27: neither hears the other", x.hidden(0), 1);
+        AirParted z = pair(50, 101);
+        Check.due("27: the other hears the one", z.hidden(0), 0);
+        z.set(3, 101);
+        Check.due("27: neither hears", z.hidden(0), 1);
+        // 192 at the goal: 19200 is 50 times 384, so alone just enough with NOISE 384 and MUCH 50.
+        AirParted e = new AirParted();
+        e.land(11, 1);
+        e.set(2, 384);
+        e.sender(3, 0, 50, 0, 50, 5);
+        e.sender(3, 10, 50, 0, 50, 5);
+        Check.due("27: just heard alone", e.hidden(0), 1);
+        e.set(2, 385);
+        Check.due("27: not just heard alone", e.hidden(0), 0);
         AirParted y = pair(100, 9);
         // 384 and 34 at the goals: the weak one is not heard even alone; the first against 44 is heard.
         Check.due("27: not heard even alone", y.hidden(0), 0);

@@ -6,6 +6,7 @@ public final class PartingTest {
         lone();
         eight();
         lookingAhead();
+        fewestOfLikeWorth();
         offAndOthers();
         Check.end();
     }
@@ -140,6 +141,16 @@ public final class PartingTest {
         for (int i = 0; i < 4; i++) {
             Check.due("17: so that the rest can be parted yet, " + i, y.part(15, i), due[i]);
         }
+    }
+
+    private static void fewestOfLikeWorth() {
+        AirParted x = row(0, 4, 2);
+        x.change(2, 1, 2);
+        Check.due("18: of like worth the fewest", x.best(7, 1), 4);
+        x.change(0, 1, 3);
+        x.change(1, 1, 1);
+        x.change(2, 1, 3);
+        Check.due("18: the most ahead of the fewest", x.best(7, 1), 3);
     }
 
     private static void offAndOthers() {

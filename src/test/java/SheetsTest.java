@@ -254,7 +254,18 @@ public final class SheetsTest {
         long due = add(17, 2, 1, 2, 1, 1, 1, 1, 1, 14, 2, 2, 1, 2, 3, 4, 5);
         due = add(due, 2, 3, 100, 7, 11, 2, 13, 2, 1, 3, 0, 1);
         due = add(due, 0, 1, 50, 0, 10000, 1, 1, 0, 0, 1, 0, -3);
-        due = add(due, 3, 1, 17);
-        Check.due("54: of many", x.digest(), due);
+        Check.due("54: of many", x.digest(), add(due, 3, 1, 17));
+        x.set(2, 10000);
+        // 500 got of the first STRENGTH is below a tenth of NOISE, 1000 of the second is not.
+        x.set(4, 10);
+        due = add(17, 2, 1, 2, 1, 1, 1, 1, 1, 14, 2, 2, 1, 2, 10000, 4, 10);
+        due = add(due, 2, 3, 100, 7, 11, 2, 13, 2, 1, 3, 0, x.heard(0));
+        due = add(due, 0, 1, 50, 0, 10000, 1, 1, 0, 0, 1, 0, -3);
+        Check.due("54: a plan of 500", x.digest(), add(due, 3, 2, 17));
+        AirParted y = new AirParted();
+        y.site(0, 0, 1, 2, 501, 501);
+        y.ear(0, 9);
+        due = add(17, 0, 0, 0, 0, 0, 0, 1, 1, 0, 10, 10, 5, 20, 10, 100, 100, 0, 0, 0);
+        Check.due("54: a plan of 501 is too dear", y.digest(), due);
     }
 }

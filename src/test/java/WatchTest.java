@@ -27,6 +27,9 @@ public final class WatchTest {
         Check.due("38: tear", x.log(7, AirParted.NONE), 100000000);
         Check.due("38: torn", x.log(7, AirParted.NONE), AirParted.NONE);
         Check.due("38: counted", x.count(5), 0);
+        x.sender(0, 0, 1, 0, 1, 0);
+        Check.due("39: eight boxes", x.hear(0), 8);
+        Check.due("39: counted", x.count(5), 8);
         Check.due("38: box 8", x.log(8, 1), -3);
         Check.due("38: box -1", x.log(-1, 1), -3);
         Check.due("38: too much", x.log(0, 100000001), -3);
@@ -103,6 +106,16 @@ public final class WatchTest {
             x.log(0, got[i]);
             Check.due("40: slack 10 of " + got[i], x.cells(9, 10), due[i]);
         }
+        x.log(0, 1900);
+        Check.due("40: slack 100 of 1900", x.cells(9, 100), 1);
+        x.log(0, 1901);
+        Check.due("40: slack 100 of 1901", x.cells(9, 100), 0);
+        // A cell behind the last would agree with this one.
+        x.log(0, 450);
+        x.sender(0, 0, 9, 0, 1, 0);
+        Check.due("40: none but a cell that is not there", x.cells(9, 0), 0);
+        Check.due("41: none but a cell that is not there", x.cell(9, 0, 0), AirParted.NONE);
+        Check.due("42: none but a cell that is not there", x.cheats(0, 30, 0), 1);
         x.log(0, 100000000);
         Check.due("40: the most of the least", x.cells(1, 100), 0);
         x.log(0, 0);
