@@ -28,6 +28,7 @@ public final class EdgesListeningTest {
         hiddenIsBounded();
         hiddenOfNone();
         hiddenFromEarOn();
+        hiddenOfThree();
         hiddenIsHeardAlone();
         hiddenIsOncePerPair();
         whoIsNotHidden();
@@ -485,6 +486,24 @@ public final class EdgesListeningTest {
         x.change(0, 0, 50);
         x.change(1, 0, 51);
         Check.due("27: the first would hear the second: 50", x.hidden(0), 0);
+    }
+
+    /** Of three in a row each two are asked about by themselves, whichever of both would hear the other. */
+    private static void hiddenOfThree() {
+        for (int strong = 0; strong < 3; strong++) {
+            AirParted x = new AirParted();
+            x.land(20, 1);
+            // Six off 37, twelve off 145: of STRENGTH 50 135 and 34 are GOT; of 200 540 and 137; on its own cell 5000, 20000.
+            for (int i = 0; i < 3; i++) {
+                x.sender(3, 6 * i, i == strong ? 200 : 50, 0, 10000, 6 * i);
+            }
+            x.set(3, 136);
+            // MUCH is 100 times: with NOISE 20 a weak one may have 30 more beside it, so it is HEARD beside none.
+            x.set(2, 20);
+            Check.due("27: the two weak ones, where " + strong + " is heard by both", x.hidden(0), 1);
+            x.set(3, 541);
+            Check.due("27: all three, where none hears " + strong, x.hidden(0), 3);
+        }
     }
 
     private static void hiddenIsHeardAlone() {

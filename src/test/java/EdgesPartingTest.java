@@ -366,6 +366,7 @@ public final class EdgesPartingTest {
         for (int n = 1; n <= 8; n++) {
             Check.due("19: one that may not even be alone, in " + n, x.proof(3, n), 2);
             Check.due("19: the other may, in " + n, x.proof(1, n), 0);
+            Check.due("19: a set of it alone, in " + n, x.proof(2, n), 2);
         }
     }
 

@@ -123,6 +123,16 @@ public final class EdgesPlansTest {
         y.ear(0, 100);
         Check.due("45: a SITE that is off", y.serves(0), 0);
         Check.due("45: a SITE that is not", y.serves(1), 100);
+        y.set(2, 1);
+        y.set(4, 1);
+        Check.due("45: a SITE that is off, with the least NOISE and LEVEL", y.serves(0), 0);
+        AirParted z = new AirParted();
+        z.land(20, 1);
+        z.set(2, 1);
+        z.set(4, 1);
+        z.site(0, 0, 1, 2, 1, 1);
+        z.ear(19, 100);
+        Check.due("45: GOT of 0, with the least NOISE and LEVEL", z.serves(1), 0);
     }
 
     private static void servesByFiguresOfThree() {
@@ -225,6 +235,12 @@ public final class EdgesPlansTest {
         x.set(4, 2460);
         Check.due("45: without a MAST", x.serves(3), 7);
         x.set(4, 2461);
+        Check.due("45: and no more", x.serves(3), 0);
+        x.put(0, 0, 0, 1);
+        x.set(4, 2590);
+        // From 1 to 0 the line is at a half: 19 and a half above, cut: 100000 by 385 is 259.
+        Check.due("45: from a HILL of 1, to MAST 0", x.serves(3), 7);
+        x.set(4, 2591);
         Check.due("45: and no more", x.serves(3), 0);
         x.lose(0);
         x.set(4, 200000);

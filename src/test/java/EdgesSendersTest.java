@@ -400,6 +400,10 @@ public final class EdgesSendersTest {
         Check.due("11: with MAST 20, to MAST 0", x.got(1, 2), 100000 / 205);
         x.put(0, 0, 0, 20);
         Check.due("11: from a HILL", x.got(0, 2), 100000 / 205);
+        x.put(0, 0, 0, 0);
+        x.sender(0, 0, 1000, 19, 1, 2);
+        // From 19 to 0 the line is at 9 and a half: 10 and a half above, cut.
+        Check.due("11: with MAST 19, to MAST 0", x.got(2, 2), 100000 / 205);
     }
 
     // ---- promise 12

@@ -26,6 +26,7 @@ public final class EdgesTextsTest {
         mayByKinds();
         mayBySlots();
         mayByDays();
+        nothingIsLeftOfTextsWiped();
         mayAsTheLastRuleTells();
         rulesAreNumberedFrom0();
         Check.end();
@@ -345,6 +346,18 @@ public final class EdgesTextsTest {
                 Check.due("35: day " + day + " by " + texts[k], x.may(0, 0, day), in ? 1 : 0);
                 Check.due("36: day " + day + " by " + texts[k], x.rule(0, 0, day), in ? 0 : NONE);
             }
+        }
+    }
+
+    private static void nothingIsLeftOfTextsWiped() {
+        AirParted x = of("+0:3-5@50-60;-0:4@55");
+        Check.due("36: by the old ones", x.rule(0, 4, 55), 1);
+        x.wipe();
+        States.typed(x, "-*:0-11;+0:4");
+        for (int day : new int[] {0, 49, 55, 61, 99}) {
+            Check.due("36: days that are not named are all, day " + day, x.rule(0, 4, day), 1);
+            Check.due("35: the new sign tells, day " + day, x.may(0, 4, day), 1);
+            Check.due("36: of all KINDS and SLOTS, day " + day, x.rule(5, 11, day), 0);
         }
     }
 

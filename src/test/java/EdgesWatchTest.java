@@ -29,6 +29,7 @@ public final class EdgesWatchTest {
         cheatsIsBounded();
         cheatsNot();
         cheatsWithinFar();
+        cheatsByBothWays();
         cheatsOverTheWholeLand();
         cheatsByItsStrength();
         cheatsWhereItStands();
@@ -313,6 +314,15 @@ public final class EdgesWatchTest {
         Check.due("40: over what is UNKNOWN, MOOD 0", x.cells(1000, 0), 0);
         x.log(0, 20000);
         Check.due("40: 100000 by 5", x.cell(1000, 0, 0), 0);
+        AirParted slope = new AirParted();
+        slope.land(3, 1);
+        slope.sheet(0, 0, 3);
+        slope.put(0, 0, 0, 1);
+        slope.put(0, 0, 1, 20);
+        slope.box(2);
+        // The line of sight from 1 to 0 is at a half: 19 and a half above, cut.
+        slope.log(0, 100000 / 385);
+        Check.due("40: from a HILL of 1, with MAST 0", slope.cell(1000, 0, 0), 0);
         x.sheet(1, 0, 3);
         x.put(1, 0, 1, 9);
         x.log(0, 2000);
@@ -329,6 +339,12 @@ public final class EdgesWatchTest {
         Check.due("41: only cells of the LAND", x.cell(1, 0, 0), NONE);
         x.log(0, 33);
         Check.due("41: the last cell of the LAND", x.cell(1, 0, 0), 3);
+        AirParted y = single(50);
+        y.sender(5, 0, 1, 0, 1, 0);
+        // One to the left, to the right, up or down would have 50.
+        Check.due("40: none beside the only cell", y.cells(1, 0), 0);
+        Check.due("41: none beside the only cell", y.cell(1, 0, 0), NONE);
+        Check.due("42: none beside the only cell", y.cheats(0, 30, 0), 1);
     }
 
     private static void cellByNumbers() {
@@ -391,6 +407,25 @@ public final class EdgesWatchTest {
         for (int[] row : rows) {
             x.log(0, row[0]);
             Check.due("42: GOT " + row[0] + ", within " + row[1], x.cheats(0, row[1], 0), row[2]);
+        }
+    }
+
+    private static void cheatsByBothWays() {
+        // The only cell that agrees is that of the BOX: 5 to the right of the SENDER, then 5 below it, then (3, 4) off.
+        int[] boxes = {5, 50, 43};
+        for (int b : boxes) {
+            AirParted x = new AirParted();
+            x.sender(5, 0, 60, 0, 1, 0);
+            x.box(b);
+            x.log(0, 6000);
+            Check.due("42: cell " + b + " is not within 4", x.cheats(0, 4, 0), 1);
+            Check.due("42: cell " + b + " is within 5", x.cheats(0, 5, 0), 0);
+            AirParted y = new AirParted();
+            y.sender(5, b, 60, 0, 1, 0);
+            y.box(0);
+            y.log(0, 6000);
+            Check.due("42: from " + b + " cell 0 is not within 4", y.cheats(0, 4, 0), 1);
+            Check.due("42: from " + b + " cell 0 is within 5", y.cheats(0, 5, 0), 0);
         }
     }
 

