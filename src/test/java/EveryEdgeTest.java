@@ -3,7 +3,7 @@ import java.util.ArrayList;
 import java.util.Arrays;
 import java.util.List;
 
-/** Every call of the face with every edge in each of its numbers, and in each two of them: the class and Model answer alike, none throws. */
+/** Every call of the face with EDGES in each of its numbers, and with FEW in each two of them: the class and Model answer alike, none throws. */
 public final class EveryEdgeTest {
     private static final int MOST_CALLS = 512;
     private static final int[] EDGES = {Integer.MIN_VALUE, Integer.MIN_VALUE + 1, -400, -31, -3, -2, -1, 0, 1, 2, 3, 4, 5, 6, 7, 8, 9, 10, 11, 12,
