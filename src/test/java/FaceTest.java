@@ -2,10 +2,14 @@ import java.lang.reflect.Constructor;
 import java.lang.reflect.Field;
 import java.lang.reflect.Method;
 import java.lang.reflect.Modifier;
+import java.nio.file.Files;
+import java.nio.file.Path;
 import java.util.ArrayList;
 import java.util.Arrays;
 import java.util.List;
 import java.util.TreeSet;
+import java.util.regex.Matcher;
+import java.util.regex.Pattern;
 
 /** The public face of the document, and rules 1, 2, 5 and 11 of LANGUAGE.md as far as the compiled class shows them. */
 public final class FaceTest {
@@ -21,7 +25,8 @@ public final class FaceTest {
         "int lose(int)", "int put(int, int, int, long)", "long get(int, int, int)", "int copy(int, int, int, int, int)",
         "int map(int, int)", "int count(int)", "long digest()"};
 
-    public static void main(String[] args) {
+    public static void main(String[] args) throws Exception {
+        asTheDocumentSays();
         constants();
         methods();
         List<Class<?>> all = new ArrayList<>(Arrays.asList(AirParted.class.getDeclaredClasses()));
@@ -36,6 +41,24 @@ public final class FaceTest {
             members(c);
         }
         Check.end();
+    }
+
+    /** The list above is the one of the document's block, no call more and none less. */
+    private static void asTheDocumentSays() throws Exception {
+        Path source = Path.of(System.getProperty("airparted.source", "src/main/java/AirParted.java")).toAbsolutePath();
+        Path root = source.getParent().getParent().getParent().getParent();
+        Path document = root.resolve("../shared/DOC.md");
+        if (!Files.isReadable(document)) {
+            System.out.println("no document beside the project: its face is taken as written here");
+            return;
+        }
+        String text = Files.readString(document);
+        TreeSet<String> told = new TreeSet<>();
+        Matcher call = Pattern.compile("(?m)^    public (int|long) (\\w+)\\(([^)]*)\\);$").matcher(text);
+        while (call.find()) {
+            told.add(call.group(1) + " " + call.group(2) + "(" + call.group(3).replaceAll("(\\w+) \\w+", "$1") + ")");
+        }
+        Check.holds("the document's methods are " + told, told.equals(new TreeSet<>(Arrays.asList(FACE))));
     }
 
     private static void constants() {
